@@ -555,43 +555,25 @@ public final class VectorShelf {
     }
 
     public int put(int sheet, int i, int v) {
-        if (!isSheet(sheet)) {
-            return BAD;
+        int refused = refusal(sheet, Sheet.ANY, i, 1);
+        if (refused != 0) {
+            return refused;
         }
-        Sheet row = sheets[sheet];
-        if (row.isMissing()) {
-            return ABSENT;
-        }
-        if (!row.hasRun(i, 1)) {
-            return OUTSIDE;
-        }
-        row.write(i, v);
+        sheets[sheet].write(i, v);
         return 1;
     }
 
     public int blank(int sheet, int i) {
-        if (!isSheet(sheet)) {
-            return BAD;
+        int refused = refusal(sheet, Sheet.FLOATS, i, 1);
+        if (refused != 0) {
+            return refused;
         }
-        Sheet row = sheets[sheet];
-        if (row.isMissing()) {
-            return ABSENT;
-        }
-        if (row.sort != Sheet.FLOATS) {
-            return OTHER_SORT;
-        }
-        if (!row.hasRun(i, 1)) {
-            return OUTSIDE;
-        }
-        row.wipe(i);
+        sheets[sheet].wipe(i);
         return 1;
     }
 
     public int item(int sheet, int i) {
-        if (!isSheet(sheet) || !sheets[sheet].hasRun(i, 1)) {
-            return NO_ANSWER;
-        }
-        return sheets[sheet].tellAt(i);
+        return refusal(sheet, Sheet.ANY, i, 1) == 0 ? sheets[sheet].tellAt(i) : NO_ANSWER;
     }
 
     public int copy(int sheet, int i, int other, int j, int n) {
@@ -614,34 +596,26 @@ public final class VectorShelf {
     }
 
     public int rest(int sheet, int i, int j) {
-        if (!isSheet(sheet)) {
-            return BAD;
+        int refused = refusal(sheet, Sheet.BYTES, i, 1);
+        if (refused == 0) {
+            refused = refusal(sheet, Sheet.BYTES, j, 1);
         }
-        Sheet row = sheets[sheet];
-        if (row.isMissing()) {
-            return ABSENT;
+        if (refused != 0) {
+            return refused;
         }
-        if (row.sort != Sheet.BYTES) {
-            return OTHER_SORT;
-        }
-        if (!row.hasRun(i, 1) || !row.hasRun(j, 1)) {
-            return OUTSIDE;
-        }
-        int divisor = row.bytes[j];
-        return divisor == 0 ? BY_ZERO : row.bytes[i] % divisor;
+        int divisor = sheets[sheet].tellAt(j);
+        return divisor == 0 ? BY_ZERO : sheets[sheet].tellAt(i) % divisor;
     }
 
     public int shelve(int sheet, int sort, int from, int n) {
-        if (!isSheet(sheet) || !isIn(sort, Sheet.FLOATS, Sheet.SHORTS) || !isIn(n, 0, MOST_VECTORS)) {
+        if (!isIn(sort, Sheet.FLOATS, Sheet.SHORTS) || !isIn(n, 0, MOST_VECTORS)) {
             return BAD;
         }
+        int refused = refusal(sheet, sort, 0, 0);
+        if (refused != 0) {
+            return refused;
+        }
         Sheet row = sheets[sheet];
-        if (row.isMissing()) {
-            return ABSENT;
-        }
-        if (row.sort != sort) {
-            return OTHER_SORT;
-        }
         int came = 0;
         for (int i = 0; i < n; i++) {
             int at = from + 4 * i;
@@ -656,19 +630,11 @@ public final class VectorShelf {
     }
 
     public int ask(int sheet, int from) {
-        if (!isSheet(sheet)) {
-            return BAD;
+        int refused = refusal(sheet, Sheet.FLOATS, from, 3);
+        if (refused != 0) {
+            return refused;
         }
         Sheet row = sheets[sheet];
-        if (row.isMissing()) {
-            return ABSENT;
-        }
-        if (row.sort != Sheet.FLOATS) {
-            return OTHER_SORT;
-        }
-        if (!row.hasRun(from, 3)) {
-            return OUTSIDE;
-        }
         shelf.stand(row.restBy250(from), row.restBy250(from + 1), row.restBy250(from + 2));
         return Integer.bitCount(fitting());
     }
@@ -680,20 +646,29 @@ public final class VectorShelf {
         if (shelf.cellOf[one] == NONE) {
             return STATE;
         }
+        int refused = refusal(sheet, Sheet.BYTES, i, 3);
+        if (refused != 0) {
+            return refused;
+        }
+        for (int n = 0; n < 3; n++) {
+            sheets[sheet].write(i + n, shelf.codeOf(one, n));
+        }
+        return 3;
+    }
+
+    /** Why n items of a sheet of a sort, from item i on, are not to be had; 0 if they are. */
+    private int refusal(int sheet, int sort, int i, int n) {
+        if (!isSheet(sheet)) {
+            return BAD;
+        }
         Sheet row = sheets[sheet];
         if (row.isMissing()) {
             return ABSENT;
         }
-        if (row.sort != Sheet.BYTES) {
+        if (sort != Sheet.ANY && sort != row.sort) {
             return OTHER_SORT;
         }
-        if (!row.hasRun(i, 3)) {
-            return OUTSIDE;
-        }
-        for (int n = 0; n < 3; n++) {
-            row.write(i + n, shelf.codeOf(one, n));
-        }
-        return 3;
+        return row.hasRun(i, n) ? 0 : OUTSIDE;
     }
 
     public int taken(int k) {
@@ -795,18 +770,18 @@ public final class VectorShelf {
         }
 
         private int term(int i, int d) {
-            if (kind == BLOCK || kind == MOST) {
-                return d;
+            switch (kind) {
+                case SQUARE:
+                    return d * d;
+                case WEIGHED:
+                    return d * d * weights[i];
+                case BLOCK:
+                case MOST:
+                    return d;
+                default:
+                    int reach = d > slack ? d - slack : 0;
+                    return reach * reach * weights[i];
             }
-            int reach = d - slackOfKind();
-            if (reach < 0) {
-                return 0;
-            }
-            return kind == SQUARE ? reach * reach : reach * reach * weights[i];
-        }
-
-        private int slackOfKind() {
-            return kind == DEAD || kind == CAPPED ? slack : 0;
         }
 
         float lowOf(int x, int y, int z) {
@@ -815,12 +790,20 @@ public final class VectorShelf {
         }
 
         private float floatTerm(int i, int d) {
-            float reach = (float) Math.max(d - slackOfKind(), 0);
-            if (kind == BLOCK || kind == MOST) {
-                return reach;
+            float whole = (float) d;
+            float weight = (float) weights[i];
+            switch (kind) {
+                case SQUARE:
+                    return whole * whole;
+                case WEIGHED:
+                    return whole * whole * weight;
+                case BLOCK:
+                case MOST:
+                    return whole;
+                default:
+                    float reach = d > slack ? (float) (d - slack) : 0f;
+                    return reach * reach * weight;
             }
-            float square = reach * reach;
-            return kind == SQUARE ? square : square * (float) weights[i];
         }
 
         private float floatJoin(float a, float b) {
@@ -1177,7 +1160,7 @@ public final class VectorShelf {
         int size = 0;
         private int start = 0;
         private int next = 0;
-        /** A sign stands for itself. */
+        /** A sign stands for itself; so does a byte that begins no token, which is wanted nowhere. */
         private int token = END;
         private int value = 0;
         private int fault = NONE;
@@ -1318,9 +1301,6 @@ public final class VectorShelf {
             } else {
                 next++;
                 token = letter;
-                if (!isSign(letter)) {
-                    fail();
-                }
             }
         }
 
@@ -1340,22 +1320,6 @@ public final class VectorShelf {
             return letter >= '0' && letter <= '9';
         }
 
-        private static boolean isSign(int letter) {
-            switch (letter) {
-                case '(':
-                case ')':
-                case ';':
-                case '+':
-                case '-':
-                case '*':
-                case '<':
-                case '=':
-                    return true;
-                default:
-                    return false;
-            }
-        }
-
         private void takeNumber() {
             value = 0;
             while (next < size && isDigit(letterAt(next))) {
@@ -1363,10 +1327,7 @@ public final class VectorShelf {
                 value = next - start < MOST_DIGITS ? 10 * value + letterAt(next) - '0' : value;
                 next++;
             }
-            token = NUMBER;
-            if (next - start > MOST_DIGITS) {
-                fail();
-            }
+            token = next - start > MOST_DIGITS ? FAULTY : NUMBER;
         }
 
         private void takeWord() {
@@ -1375,9 +1336,6 @@ public final class VectorShelf {
             }
             value = nameSpelt();
             token = value == 0 ? keySpelt() : NAME;
-            if (token == FAULTY) {
-                fail();
-            }
         }
 
         private int nameSpelt() {
@@ -1790,14 +1748,12 @@ public final class VectorShelf {
 
     /** A row of numbers of one sort, or nothing; its rows are made once and used again. */
     private static final class Sheet {
-        static final int MISSING = -1, FLOATS = 0, BYTES = 1, SHORTS = 2;
+        static final int MISSING = -1, FLOATS = 0, BYTES = 1, SHORTS = 2, ANY = 3;
 
         int sort = MISSING;
         int size = 0;
         private final float[] floats = new float[MOST_ITEMS];
-        /** 1 where the float is no number: no sum or product may answer one. */
-        private final byte[] blanks = new byte[MOST_ITEMS];
-        final byte[] bytes = new byte[MOST_ITEMS];
+        private final byte[] bytes = new byte[MOST_ITEMS];
         private final short[] shorts = new short[MOST_ITEMS];
 
         boolean isMissing() {
@@ -1821,7 +1777,6 @@ public final class VectorShelf {
             switch (sort) {
                 case FLOATS:
                     floats[i] = (float) v * 0.25f;
-                    blanks[i] = 0;
                     break;
                 case BYTES:
                     bytes[i] = (byte) v;
@@ -1834,15 +1789,15 @@ public final class VectorShelf {
             }
         }
 
+        /** No number tells 0 wherever it is asked, and so does what stands for it. */
         void wipe(int i) {
             floats[i] = 0f;
-            blanks[i] = 1;
         }
 
         int tellAt(int i) {
             switch (sort) {
                 case FLOATS:
-                    return blanks[i] == 1 ? 0 : (int) (4f * floats[i]);
+                    return (int) (4f * floats[i]);
                 case BYTES:
                     return bytes[i];
                 case SHORTS:
@@ -1854,14 +1809,13 @@ public final class VectorShelf {
 
         /** Four times the rest by 250 is the rest of four times the float, a whole number, by 1000. */
         int restBy250(int i) {
-            return blanks[i] == 1 ? 0 : (int) ((long) (4f * floats[i]) % 1000L);
+            return (int) ((long) (4f * floats[i]) % 1000L);
         }
 
         void giveRun(int i, Sheet to, int j, int n) {
             switch (sort) {
                 case FLOATS:
                     System.arraycopy(floats, i, to.floats, j, n);
-                    System.arraycopy(blanks, i, to.blanks, j, n);
                     break;
                 case BYTES:
                     System.arraycopy(bytes, i, to.bytes, j, n);

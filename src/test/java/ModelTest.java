@@ -210,7 +210,7 @@ public final class ModelTest {
             Method real = REAL.get(m.getName());
             if (real != null && m.getParameterCount() == real.getParameterCount()) MODEL.put(m.getName(), m);
         }
-        int runs = args.length > 0 ? Integer.parseInt(args[0]) : 600;
+        int runs = args.length > 0 ? Integer.parseInt(args[0]) : 300;
         for (int run = 0; run < runs; run++) {
             if (!new ModelTest(run).run(run)) {
                 System.out.println("run " + run + " is not as due");
