@@ -369,6 +369,7 @@ public final class RefusalTest {
             }
             BUSY.refused("41: -11 for sort " + sheet, -11, s -> s.shelve(3, sheet, 0, 1));
             BUSY.refused("41: -11 ahead of -12", -11, s -> s.shelve(3, sheet, -9, 1));
+            BUSY.refused("41: -11 with n 0", -11, s -> s.shelve(3, sheet, 0, 0));
             for (int from : new int[] {-1, -4, 3, 6, MIN, MAX, MAX - 3}) {
                 BUSY.refused("41: from " + from, -12, s -> s.shelve(sheet, sheet, from, 12));
             }

@@ -311,10 +311,30 @@ public final class TokensTest {
         due("15: THE TAPE stays", s.count(4), 160);
         for (int i = 5; i >= 0; i--) due("16: which was", s.force(i), i == 5 ? 0 : i + 1);
         due("33: no IMAGE", s.back(), -3);
+        nothingStaysOfAFault();
         VectorShelf t = new VectorShelf();
         for (int i = 0; i < 160; i++) t.feed(i % 8 == 0 ? 'x' : ' ');
         due("15: at fault, 160 bytes", t.text(), -100);
         due("14: room again", t.feed(0), 1);
+    }
+
+    /** A text at fault, of which much was right, and a short one behind it. */
+    private static void nothingStaysOfAFault() {
+        VectorShelf s = new VectorShelf();
+        s.cell(0, 0, 0);
+        s.vector(0, 0, 0, 0);
+        due("15: at fault", told(s, "fits 1;adds 1+2+3+4+5*6*7 q;"), -126);
+        due("15: RULE stays", s.count(5), 0);
+        due("15: the next one", told(s, "fits 1;adds 7;"), 1);
+        s.force(1);
+        due("15: is worth what it says", s.told(0, 10), 7);
+        due("15: at fault", told(s, "fits 0;adds 0;;"), -114);
+        due("15: the one ahead stays", s.told(0, 10), 7);
+        due("15: of three bytes", told(s, "fit"), -100);
+        due("15: the next one", told(s, "fits 0;adds 1;"), 2);
+        s.force(2);
+        due("15: is worth what it says", s.told(0, 9), 0);
+        due("15: is worth what it says", s.told(0, 10), 1);
     }
 
     public static void main(String[] args) {
